@@ -13,6 +13,7 @@ public final class HammockDeck {
     private static final int TEXTS = 4, MOST_BYTES = 60, BLANK = 32;
     private static final int KEPT_PLACES = 3;
     private static final int MISSING = -1;
+    private static final int MORE_THAN_ANY = 1000000;
 
     private static final int FEWEST_HOOKS = 2, MOST_HOOKS = 7, MOST_MEN = 6;
     private static final int SHORTEST_LINE = 1, LONGEST_LINE = 9, LAST_WATCH = 1, LAST_MESS = 3;
@@ -36,7 +37,7 @@ public final class HammockDeck {
     private Crew crew = new Crew();
     private final Berths now = new Berths(crew);
     private final Berths aside = new Berths(crew);
-    private final Log log = new Log();
+    private final Log log = new Log(0);
     private final Log[] kept = new Log[KEPT_PLACES];
 
     private int told = 0;
@@ -48,8 +49,7 @@ public final class HammockDeck {
     public HammockDeck() {
         for (int r = 0; r < rows.length; r++) rows[r] = new Row();
         for (int t = 0; t < texts.length; t++) texts[t] = new Row();
-        for (int k = 0; k < kept.length; k++) kept[k] = new Log();
-        log.begin(now);
+        for (int k = 0; k < kept.length; k++) kept[k] = new Log(MISSING);
     }
 
     // ---- 1 rows, texts, decks
@@ -341,7 +341,7 @@ public final class HammockDeck {
     public int cut(int m, int when) {
         if (!crew.hasMan(m) || !isWhen(when)) return BAD;
         int line = NONE;
-        int least = Integer.MAX_VALUE;
+        int least = MORE_THAN_ANY;
         aside.copyFrom(now);
         for (int v = SHORTEST_LINE; v <= LONGEST_LINE; v++) {
             aside.lines[m] = v;
@@ -531,7 +531,7 @@ public final class HammockDeck {
         if (plan == null) return BAD;
         if (crew.men == 0) return STATE;
         plan.renew(crew.men, 0);
-        int least = Integer.MAX_VALUE;
+        int least = MORE_THAN_ANY;
         beginPlans();
         for (int left = crew.planCount(); left > 0; left--) {
             int much = weighed(goal, when);
@@ -586,8 +586,19 @@ public final class HammockDeck {
     }
 
     private boolean fitsBook(Row book) {
+        for (int when = IN_PORT; when <= WATCH_1_UP; when++) {
+            if (!fitsBookBy(when, book)) return false;
+        }
+        return true;
+    }
+
+    private boolean fitsBookBy(int when, Row book) {
+        int much = NONE;
         for (int i = 0; i < book.size; i += 2) {
-            if (aside.allWakings(book.get(i)) != book.get(i + 1)) return false;
+            if (book.get(i) != when) continue;
+            // reckoned once a plan, however often the book tells of this when
+            if (much == NONE) much = aside.allWakings(when);
+            if (much != book.get(i + 1)) return false;
         }
         return true;
     }
@@ -948,7 +959,7 @@ public final class HammockDeck {
         // waking
 
         boolean isIn(int m, int when) {
-            return hangs(m) && (when == IN_PORT || crew.watches[m] != when - WATCH_0_UP);
+            return hooks[m] != NONE && (when == IN_PORT || crew.watches[m] != when - WATCH_0_UP);
         }
 
         int howManyIn(int when) {
@@ -980,7 +991,7 @@ public final class HammockDeck {
         private int wakingsFrom(int h, int m, int when) {
             if (!crew.hasHook(h)) return 0;
             int k = holders[h];
-            if (k == NONE || !isIn(k, when)) return 0;
+            if (!crew.hasMan(k) || !isIn(k, when)) return 0;
             boolean heard = crew.kinds[k] == SNORER && crew.kinds[m] != DEAF;
             return Math.abs(lines[m] - lines[k]) + crew.bulk(m) + crew.bulk(k) + (heard ? SNORING_WAKES : 0);
         }
@@ -1042,7 +1053,11 @@ public final class HammockDeck {
     /** How the berths were at first and behind each deed; as a kept deck it may be missing. */
     private static final class Log {
         private final int[] moments = new int[(MOST_DEEDS + 1) * Berths.MOMENT];
-        private int deeds = MISSING;
+        private int deeds;
+
+        Log(int deeds) {
+            this.deeds = deeds;
+        }
 
         boolean isMissing() {
             return deeds == MISSING;

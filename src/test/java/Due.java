@@ -23,7 +23,7 @@ final class Due {
         is(what + ", asked()", x.asked(), wantAsked);
     }
 
-    /** A call that is refused with a finding: which, and that just its count grew. */
+    /** A call that is refused with a finding, and which. */
     static void finds(HammockDeck x, String what, long got, int finding) {
         is(what, got, HammockDeck.FINDING);
         is(what + ", finding()", x.finding(), finding);

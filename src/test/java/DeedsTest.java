@@ -180,6 +180,9 @@ public final class DeedsTest {
         Due.is("60 deeds", x.count(2), 60);
         Due.is("on", x.on(0), 60);
         hookIs(x, 0, 0);
+        hookIs(x, 1, 1);
+        holderIs(x, 1, 1);
+        Due.asks(x, "line", x.man(1, 1), 1, 9);
         Due.is("on: as FULL", x.down(0), FULL);
         Due.is("undo", x.undo(59), 1);
         Due.is("neither hangs: STATE", x.down(0), STATE);

@@ -14,6 +14,7 @@ public final class PlansTest {
         refusesJudging();
         gains();
         calm();
+        calmByTheFirstPair();
         calmAtSea();
         mates();
         Due.end();
@@ -192,6 +193,22 @@ public final class PlansTest {
         Due.is("no such when", x.calm(-1), BAD);
         HammockDeck y = Due.deck("k..m100m900");
         Due.asks(y, "the same both ways", y.calm(0), 1, NONE);
+    }
+
+    private static void calmByTheFirstPair() {
+        HammockDeck x = Due.deck("k.....m100m900m900m100");
+        Due.is("hang", x.hang(1, 4), 4);
+        Due.is("hang", x.hang(2, 1), 1);
+        Due.asks(x, "0 and 1, 2 and 3, too", x.calm(0), 0, 1);
+        HammockDeck y = Due.deck("k....m100m900m900");
+        Due.is("hang", y.hang(1, 3), 3);
+        Due.is("hang", y.hang(2, 1), 1);
+        Due.asks(y, "the other as much as ahead", y.calm(0), 1, NONE);
+        HammockDeck z = Due.deck("k....m900m100m900");
+        Due.is("hang", z.hang(0, 3), 3);
+        Due.is("hang", z.hang(1, 0), 0);
+        Due.is("hang", z.hang(2, 1), 1);
+        Due.asks(z, "the lesser as much as ahead", z.calm(0), 1, NONE);
     }
 
     private static void calmAtSea() {

@@ -2,19 +2,31 @@
 final class Due {
     private static int checked = 0;
     private static int wrong = 0;
+    private static String about = "";
 
     private Due() {
+    }
+
+    /** What the checks from here on are about: printed ahead of each that is wrong. */
+    static void about(String words) {
+        about = words;
     }
 
     static void is(String what, long got, long want) {
         checked++;
         if (got == want) return;
         wrong++;
-        System.out.println(what + ": answered " + got + ", due is " + want);
+        System.out.println(about + what + " answered " + got + ", due is " + want);
     }
 
     static void isTrue(String what, boolean got) {
         is(what, got ? 1 : 0, 1);
+    }
+
+    static void wrong(String what) {
+        checked++;
+        wrong++;
+        System.out.println(about + what);
     }
 
     /** A call's answer, and what asked() tells behind it. */

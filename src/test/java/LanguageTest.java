@@ -24,9 +24,11 @@ public final class LanguageTest {
     private static final Set<String> LONG_ANSWERS = Set.of("upper", "lower", "digest");
     private static final Set<String> CONSTANTS = Set.of("BAD", "FULL", "FINDING", "STATE", "SPENT", "NONE");
     private static final String[] RULED_OUT = {
-        "\\b(throw|throws|try|catch|finally|synchronized|assert|volatile|transient|native|protected)\\b", "->", "::", "@",
-        "\\b(Object|System\\.out|System\\.exit|Exception|Thread|Random|Iterator)\\b", "\\w+Exact\\(", "\\b(MAX|MIN)_VALUE\\b",
-        "\\bimport (?!java\\.util\\.(Arrays|ArrayList|List|Iterator);)", "\\bpackage\\b", "\"", "\\bstatic \\{", "while \\(true\\)", "for \\(;;"};
+        "\\b(throw|throws|try|catch|finally|synchronized|assert|volatile|transient|native|protected)\\b", "(?m)^(?!\\s*(case|default)\\b).*->", "::", "@",
+        "\\b(Object|System\\.out|System\\.exit|Exception|Thread|Random)\\b", "\\w+Exact\\(", "\\b(MAX|MIN)_VALUE\\b",
+        "\\bimport (?!java\\.util\\.(Arrays|ArrayList|List|Iterator);)", "\\bpackage\\b", "\\bstatic \\{", "while \\(true\\)", "for \\(;;"};
+    // rule 4: of Integer, Long and Math any function over int and long but those ending in Exact
+    private static final String LIBRARY = "(Math|Integer|Long)\\.[a-z]\\w*(?<!Exact)|Arrays\\.(copyOf|copyOfRange|fill)|System\\.arraycopy|List\\.of";
 
     public static void main(String[] args) throws IOException {
         classItself();
@@ -112,9 +114,8 @@ public final class LanguageTest {
             Matcher found = Pattern.compile(pattern).matcher(code);
             while (found.find()) Due.is("ruled out: " + found.group() + " at sign " + found.start(), 1, 0);
         }
-        Matcher library = Pattern.compile("\\b(Math|Integer|Long|Arrays|System|String)\\.(\\w+)").matcher(code);
-        Set<String> known = Set.of("Math.max", "Math.min", "Math.abs", "Integer.bitCount", "Arrays.fill", "System.arraycopy");
-        while (library.find()) Due.isTrue("of the library: " + library.group(), known.contains(library.group()));
+        Matcher library = Pattern.compile("\\b(Math|Integer|Long|Arrays|System|String|List)\\.(\\w+)").matcher(code);
+        while (library.find()) Due.isTrue("of the library: " + library.group(), library.group().matches(LIBRARY));
     }
 
     /** Methods stay short: from a line that opens one to the brace that closes it. */

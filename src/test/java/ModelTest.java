@@ -1,12 +1,15 @@
 /** All promises: long runs of calls, each answer and all that is told compared with the Model's. */
 public final class ModelTest {
-    private static final int RUNS = 160, CALLS = 180, CALLS_OF_MANY_PLANS = 24;
+    private static final int RUNS = 400, CALLS_OF_MANY_PLANS = 12;
+    // 512 calls are promised; what one round makes at most must still have room
+    private static final int MOST_CALLS = 512, CALLS_OF_A_ROUND = 120;
     private static final String KINDS = "mtsfni", PLACES = ".dlug";
 
     private long state;
     private HammockDeck x;
     private Model y;
     private String call;
+    private int calls;
     private int manyPlans;
 
     public static void main(String[] args) {
@@ -29,10 +32,13 @@ public final class ModelTest {
         state = run * 7919L + 17;
         x = new HammockDeck();
         y = new Model();
+        calls = 0;
         for (int i = 0; i < 5; i++) lot(9);
     }
 
     private void same(long got, long due) {
+        calls += 6;
+        if (calls > MOST_CALLS) Due.wrong(call + ", the test itself goes too far: calls " + calls);
         Due.is(call, got, due);
         Due.is(call + ", asked()", x.asked(), y.asked);
         Due.is(call + ", upper()", x.upper(), y.upper);
@@ -44,7 +50,7 @@ public final class ModelTest {
     private void run(int run) {
         begin(run);
         decks(run);
-        for (int i = 0; i < CALLS; i++) {
+        for (int i = 0; calls <= MOST_CALLS - CALLS_OF_A_ROUND; i++) {
             int from = lot(8);
             call = "run " + run + ", call " + i + ": ";
             if (from == 0) onRows();
@@ -75,6 +81,7 @@ public final class ModelTest {
         call = "text " + signs;
         same(x.text(t, signs.length()), y.text(t, signs.length()));
         for (int i = 0; i < signs.length(); i++) {
+            calls++;
             Due.is(call, x.put(t, i, signs.charAt(i)), y.put(t, i, signs.charAt(i)));
         }
     }

@@ -38,9 +38,9 @@ public final class AnswersEdgesTest {
             Trial few = Trial.ofDeck(DECK).row(3).is(28, "all(0)");
             Trial most = Trial.ofDeck(DECK).row(3);
             for (int i = 0; most.calls() < Trial.MOST_CALLS - 3; i++) {
-                if (i % 2 == 0) most.says("lots(20, " + (i + 1) + ")");
+                if (i % 50 == 0) most.says("lots(20, " + (i + 1) + ")");
+                else if (i % 50 == 49) most.says("undo(0)");
                 else most.is(1, "hook(0, 0)");
-                if (i % 8 == 7 && most.calls() < Trial.MOST_CALLS - 4) most.says("undo(0)");
             }
             most.says("undo(0)");
             most.is(28, "all(0)");
@@ -144,7 +144,8 @@ public final class AnswersEdgesTest {
         Trial x = Trial.ofDeck(DECK).is(5, "hang(0, 5)").is(3, "line(1, 7)").is(2, "keep(0)");
         x.says("night(0)");
         x.is(2, "down(2)").is(4, "keep(1)");
-        return x.row(0, 7, -7).row(1).row(2, 0, 1, 2, 3).row(3, 0, 1, 3, 0).text(1, "k. m100").is(1, "mid(0)").asks(1, -7, "at(0, 1)");
+        return x.row(0, 7, -7).row(1).row(2, 0, 1, 2, 3).row(3, 0, 1, 3, 0).text(1, "k. m100").finds(Trial.NOUGHT, "mean(1)")
+            .is(1, "mid(0)").asks(1, -7, "at(0, 1)");
     }
 
     private static final String[] BAD_ON_RICH = {

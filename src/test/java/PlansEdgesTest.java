@@ -240,6 +240,10 @@ public final class PlansEdgesTest {
         // all are of watch 0: by it nobody is in
         Trial x = Trial.ofDeck("k....m100m900m100m900").asks(0, 3, "calm(0)").asks(1, NONE, "calm(1)").asks(0, 3, "calm(2)");
         x.is(0, "down(0)").asks(1, NONE, "calm(0)");
+        // in port alone; at sea alone, where the lesser, or the other, would not gain in port
+        Trial.ofDeck("k....m100m510m100m510").asks(0, 3, "calm(0)").asks(1, NONE, "calm(1)").asks(1, NONE, "calm(2)");
+        Trial.ofDeck("k.....m900m100m110m100m900").asks(0, 3, "calm(2)").asks(1, NONE, "calm(0)").asks(1, NONE, "calm(1)");
+        Trial.ofDeck("k.....m910m900m500m900m100").asks(0, 10, "calm(2)").asks(1, NONE, "calm(0)").asks(1, NONE, "calm(1)");
         Sentences.of("Promise 33", "BAD.");
         for (String none : NO_WHEN) x.bad("calm(" + none + ")");
         new Trial().bad("calm(3)").bad("calm(-1)");

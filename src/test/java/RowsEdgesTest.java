@@ -31,6 +31,14 @@ public final class RowsEdgesTest {
         // a new one has nothing of another
         Trial.ofDeck("k..m100").row(0, 1).is(0, "keep(0)");
         new Trial().is(0, "count(0)").is(0, "count(6)").is(0, "count(7)").is(0, "count(8)");
+        // nor one beside it, whatever becomes of the other
+        Trial y = new Trial();
+        Trial z = Trial.ofDeck("kl.m100").row(0, 1).is(0, "keep(0)").is(3, "night(0)").finds(Trial.NOTHING, "tear(1)")
+            .means(3, 2, "mid(0)");
+        y.is(new Trial().says("digest()"), "digest()").is(0, "asked()").is(0, "finding()").is(0, "findings(1)").is(0, "upper()")
+            .is(1, "lower()");
+        y.finds(Trial.NOTHING, "on(0)").finds(Trial.NOTHING, "at(0, 0)").bad("man(0, 0)").is(5, "row(0, 5)");
+        z.rowIs(0, 1).is(0, "on(0)").is(0, "count(4)");
     }
 
     private static void row() {

@@ -32,7 +32,7 @@ public final class AnswersEdgesTest {
 
     private static void atMost512Calls() {
         Sentences.of("What it is", "An object is used for at most 512 calls after it has been made");
-        String[] last = {"digest()", "best(0, 1)", "mates()", "mid(1)", "lots(20, 7)", "row(5, 40)", "deck(0)", "night(0)", "up(0, 2)",
+        String[] last = {"digest()", "asked()", "best(0, 1)", "mates()", "mid(1)", "lots(20, 7)", "row(5, 40)", "deck(0)", "night(0)", "up(0, 2)",
             "fault(0)", "fits(3)", "keep(2)", "change(0, 3)", "count(7)"};
         for (String call : last) {
             Trial few = Trial.ofDeck(DECK).row(3).is(28, "all(0)");
